@@ -399,14 +399,14 @@ public final class Trellistag {
             return most;
         }
 
-        // Ahead of its first letter a word has only zeros: there it shares nothing.
+        // No two words are compared ahead of the first letters of both: they would be the same word.
         private static int likeness(int one, int other) {
             if (one == other) {
                 return SAME_WORD;
             }
             int letters = 0;
             int mask = LETTER_MASK;
-            while (letters < LONGEST_ENDING && (one & mask) != 0 && (one & mask) == (other & mask)) {
+            while (letters < LONGEST_ENDING && (one & mask) == (other & mask)) {
                 letters++;
                 mask <<= LETTER_BITS;
             }

@@ -79,7 +79,8 @@ public final class FaceTest {
             int modifiers = field.getModifiers();
             boolean constant = field.getName().equals("NONE");
             Check.due("visibility of " + field, Modifier.isPrivate(modifiers), !constant);
-            Check.due("static and not final: " + field, Modifier.isStatic(modifiers) && !Modifier.isFinal(modifiers), false);
+            boolean changing = Modifier.isStatic(modifiers) && !Modifier.isFinal(modifiers);
+            Check.due("static and not final: " + field, changing, false);
             if (constant) {
                 Check.due("modifiers of NONE", Modifier.toString(modifiers), "public static final");
             }

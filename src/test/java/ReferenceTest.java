@@ -85,15 +85,17 @@ public final class ReferenceTest {
         int place = near(5);
         int tag = near(5);
         int from = near(6) - 1;
+        String atRank = " " + rank + " " + place;
+        String atTag = " " + place + " " + tag;
         switch (pick(9)) {
             case 0 -> same("weight " + tag, () -> x.weight(tag), () -> due.weight(tag));
             case 1 -> same("step " + from + " " + tag, () -> x.step(from, tag), () -> due.step(from, tag));
-            case 2 -> same("path " + rank + " " + place, () -> x.path(rank, place), () -> due.path(rank, place));
-            case 3 -> same("pathAnew " + rank + " " + place, () -> x.pathAnew(rank, place), () -> due.path(rank, place));
+            case 2 -> same("path" + atRank, () -> x.path(rank, place), () -> due.path(rank, place));
+            case 3 -> same("pathAnew" + atRank, () -> x.pathAnew(rank, place), () -> due.path(rank, place));
             case 4 -> same("product " + rank, () -> x.product(rank), () -> due.product(rank));
             case 5 -> same("cost", x::cost, due::cost);
-            case 6 -> same("share " + place + " " + tag, () -> x.share(place, tag), () -> due.share(place, tag));
-            case 7 -> same("shareAnew " + place + " " + tag, () -> x.shareAnew(place, tag), () -> due.share(place, tag));
+            case 6 -> same("share" + atTag, () -> x.share(place, tag), () -> due.share(place, tag));
+            case 7 -> same("shareAnew" + atTag, () -> x.shareAnew(place, tag), () -> due.share(place, tag));
             default -> same("texts", x::texts, due::texts);
         }
     }
