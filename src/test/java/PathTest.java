@@ -2,12 +2,9 @@
 public final class PathTest {
     public static void main(String[] args) {
         alikePathsByTheirTags();
-        fewPaths();
         ranks();
         ranksOfLongSentences();
         lockedPaths();
-        pathsRefused();
-        productsRefused();
         costs();
         Check.finish();
     }
@@ -21,17 +18,6 @@ public final class PathTest {
             Check.due("pathAnew of rank " + rank, scene.pathAnew(rank, 5), due[rank]);
             int at = rank;
             Check.answers("product of rank " + rank, 1L, () -> scene.x.product(at));
-        }
-    }
-
-    private static void fewPaths() {
-        Trellistag x = new Scene().sentence("a").x;
-        for (int rank = 0; rank < 10; rank++) {
-            int at = rank;
-            int due = rank < 5 ? rank : Trellistag.NONE;
-            Check.answers("path of rank " + rank, due, () -> x.path(at, 0));
-            Check.answers("pathAnew of rank " + rank, due, () -> x.pathAnew(at, 0));
-            Check.answers("product of rank " + rank, rank < 5 ? 1L : 0L, () -> x.product(at));
         }
     }
 
@@ -89,33 +75,6 @@ public final class PathTest {
         scene.x.lock(0, Trellistag.NONE);
         scene.x.lock(1, Trellistag.NONE);
         Check.due("unlocked", scene.path(0, 2), "0 2");
-    }
-
-    private static void pathsRefused() {
-        Trellistag x = new Scene().sentence("a b").x;
-        for (int rank : new int[] {-1, 10, Integer.MIN_VALUE, Integer.MAX_VALUE}) {
-            Check.outOfBounds("path(" + rank + ", 0)", () -> x.path(rank, 0));
-            Check.outOfBounds("pathAnew(" + rank + ", 0)", () -> x.pathAnew(rank, 0));
-        }
-        for (int place : new int[] {-1, 2, 5, Integer.MIN_VALUE, Integer.MAX_VALUE}) {
-            Check.outOfBounds("path(0, " + place + ")", () -> x.path(0, place));
-            Check.outOfBounds("pathAnew(0, " + place + ")", () -> x.pathAnew(0, place));
-        }
-        Trellistag empty = new Trellistag();
-        Check.outOfBounds("path(0, 0) of no sentence", () -> empty.path(0, 0));
-        Check.outOfBounds("pathAnew(0, 0) of no sentence", () -> empty.pathAnew(0, 0));
-    }
-
-    private static void productsRefused() {
-        Trellistag empty = new Trellistag();
-        Trellistag x = new Scene().sentence("a").x;
-        for (int rank : new int[] {-1, 10, Integer.MIN_VALUE, Integer.MAX_VALUE}) {
-            Check.outOfBounds("product(" + rank + ") of no sentence", () -> empty.product(rank));
-            Check.outOfBounds("product(" + rank + ")", () -> x.product(rank));
-        }
-        Check.illegalState("product(0) of no sentence", () -> empty.product(0));
-        Check.illegalState("product(9) of no sentence", () -> empty.product(9));
-        Check.illegalState("cost() of no sentence", empty::cost);
     }
 
     private static void costs() {

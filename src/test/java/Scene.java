@@ -33,44 +33,51 @@ final class Scene {
         return this;
     }
 
-    /** The weights of the tags for the word that is typed. */
-    String weights() {
+    /** Locks the first places to these tags, one for each: "0 4". */
+    Scene locks(String tags) {
+        int place = 0;
+        for (String tag : tags.split(" ")) {
+            x.lock(place, Integer.parseInt(tag));
+            place++;
+        }
+        return this;
+    }
+
+    private interface Cell {
+        long at(int number);
+    }
+
+    private static String row(int cells, Cell cell) {
         StringBuilder row = new StringBuilder();
-        for (int tag = 0; tag < 5; tag++) {
-            row.append(tag == 0 ? "" : " ").append(x.weight(tag));
+        for (int i = 0; i < cells; i++) {
+            row.append(i == 0 ? "" : " ").append(cell.at(i));
         }
         return row.toString();
+    }
+
+    /** The weights of the tags for the word that is typed. */
+    String weights() {
+        return row(5, tag -> x.weight(tag));
+    }
+
+    /** The weights of the steps from a tag, or from NONE, to each tag. */
+    String steps(int from) {
+        return row(5, tag -> x.step(from, tag));
     }
 
     String path(int rank, int places) {
-        StringBuilder row = new StringBuilder();
-        for (int place = 0; place < places; place++) {
-            row.append(place == 0 ? "" : " ").append(x.path(rank, place));
-        }
-        return row.toString();
+        return row(places, place -> x.path(rank, place));
     }
 
     String pathAnew(int rank, int places) {
-        StringBuilder row = new StringBuilder();
-        for (int place = 0; place < places; place++) {
-            row.append(place == 0 ? "" : " ").append(x.pathAnew(rank, place));
-        }
-        return row.toString();
+        return row(places, place -> x.pathAnew(rank, place));
     }
 
     String shares(int place) {
-        StringBuilder row = new StringBuilder();
-        for (int tag = 0; tag < 5; tag++) {
-            row.append(tag == 0 ? "" : " ").append(x.share(place, tag));
-        }
-        return row.toString();
+        return row(5, tag -> x.share(place, tag));
     }
 
     String sharesAnew(int place) {
-        StringBuilder row = new StringBuilder();
-        for (int tag = 0; tag < 5; tag++) {
-            row.append(tag == 0 ? "" : " ").append(x.shareAnew(place, tag));
-        }
-        return row.toString();
+        return row(5, tag -> x.shareAnew(place, tag));
     }
 }

@@ -5,7 +5,6 @@ public final class ShareTest {
         one();
         two();
         locked();
-        refused();
         Check.finish();
     }
 
@@ -44,20 +43,5 @@ public final class ShareTest {
         shares(scene, 1, "0 0 0 1000 0");
         scene.x.lock(0, Trellistag.NONE);
         shares(scene, 0, "714 71 71 71 71");
-    }
-
-    private static void refused() {
-        Trellistag empty = new Trellistag();
-        Check.outOfBounds("share(0, 0) of no sentence", () -> empty.share(0, 0));
-        Check.outOfBounds("shareAnew(0, 0) of no sentence", () -> empty.shareAnew(0, 0));
-        Trellistag x = new Scene().sentence("a b").x;
-        for (int tag : new int[] {-1, 5, Integer.MIN_VALUE, Integer.MAX_VALUE}) {
-            Check.outOfBounds("share(0, " + tag + ")", () -> x.share(0, tag));
-            Check.outOfBounds("shareAnew(0, " + tag + ")", () -> x.shareAnew(0, tag));
-        }
-        for (int place : new int[] {-1, 2, 5, Integer.MIN_VALUE, Integer.MAX_VALUE}) {
-            Check.outOfBounds("share(" + place + ", 0)", () -> x.share(place, 0));
-            Check.outOfBounds("shareAnew(" + place + ", 0)", () -> x.shareAnew(place, 0));
-        }
     }
 }
