@@ -68,7 +68,7 @@ public final class ShareBoundsTest {
         shares(scene, 1, "0 0 0 0 1000");
     }
 
-    /** "rounded down": also what is above a half: 1 of 6 is 166.7, 1 of 7 is 142.9, 3 of 7 is 428.6, 1 of 11 is 90.9. */
+    /** "rounded down": also what is above a half: 1 of 6 is 166.7, 1 of 7 142.9, 3 of 7 428.6, 1 of 11 90.9. */
     private static void roundedDown() {
         Scene scene = new Scene().text("z/1").sentence("a");
         shares(scene, 0, "166 333 166 166 166");
