@@ -531,7 +531,9 @@ public final class Trellistag {
         }
 
         private void insert(int rank, long weight, int path) {
-            size = Math.min(RANKS, size + 1);
+            if (size < RANKS) {
+                size++;
+            }
             for (int i = size - 1; i > rank; i--) {
                 weights[i] = weights[i - 1];
                 paths[i] = paths[i - 1];
